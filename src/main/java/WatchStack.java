@@ -308,7 +308,19 @@ public final class WatchStack {
     }
 
     public int blame() {
-        return current.lines == 0 ? NO_SUCH : trials.worstInjection(current, whole.records.size);
+        if (current.lines == 0) {
+            return NO_SUCH;
+        }
+        int worst = NONE;
+        int fewest = whole.records.size;
+        for (int i = 0; i < current.told + current.acts; i++) {
+            int left = trials.recordsLacking(current, i);
+            if (left < fewest) {
+                fewest = left;
+                worst = i;
+            }
+        }
+        return worst;
     }
 
     public int with(int task, int a, int b) {
@@ -319,11 +331,29 @@ public final class WatchStack {
     }
 
     public int tight(int task) {
-        return current.hasTask(task) ? trials.leastClose(current, task, whole.records.size) : NO_SUCH;
+        if (!current.hasTask(task)) {
+            return NO_SUCH;
+        }
+        int open = current.traits[task][Board.OPEN];
+        int close = current.traits[task][Board.CLOSE];
+        int b = open + 1;
+        while (b < close && trials.recordsWindowed(current, task, open, b) > whole.records.size) {
+            b++;
+        }
+        return b;
     }
 
     public int loose(int task) {
-        return current.hasTask(task) ? trials.greatestOpen(current, task, whole.records.size) : NO_SUCH;
+        if (!current.hasTask(task)) {
+            return NO_SUCH;
+        }
+        int open = current.traits[task][Board.OPEN];
+        int close = current.traits[task][Board.CLOSE];
+        int a = Math.min(close - 1, MAX_OPEN);
+        while (a > open && trials.recordsWindowed(current, task, a, close) > whole.records.size) {
+            a--;
+        }
+        return a;
     }
 
     public int longest(int task, int kind) {
@@ -505,6 +535,7 @@ public final class WatchStack {
         static final int SIGN = 2;
         static final int STRANGE = 3;
         static final int OVER = 4;
+        private static final int BLANK = 5;
         static final int LENGTH = 1000;
         // above every bound of the document, so that a long number stays out of bounds
         private static final int HUGE = 100000;
@@ -549,48 +580,39 @@ public final class WatchStack {
         }
 
         void advance() {
-            skipBlanks();
+            while (behind < size && kindAt(behind) == BLANK) {
+                behind++;
+            }
             place = behind;
             value = 0;
-            if (behind >= size) {
-                kind = OVER;
-            } else if (isLetter(behind)) {
-                kind = WORD;
-                passWord();
-            } else if (isDigit(behind)) {
-                kind = NUMBER;
-                passNumber();
-            } else {
-                kind = bytes[behind] == ';' ? SIGN : STRANGE;
+            kind = kindAt(behind);
+            if (kind == SIGN || kind == STRANGE) {
+                behind++;
+            }
+            while (behind < size && kind == WORD && kindAt(behind) == WORD) {
+                behind++;
+            }
+            while (behind < size && kind == NUMBER && kindAt(behind) == NUMBER) {
+                value = value >= HUGE ? HUGE : value * 10 + bytes[behind] - '0';
                 behind++;
             }
         }
 
-        private void skipBlanks() {
-            while (behind < size && (bytes[behind] == 32 || bytes[behind] == 10)) {
-                behind++;
+        private int kindAt(int i) {
+            if (i < 0 || i >= size) {
+                return OVER;
             }
-        }
-
-        private void passWord() {
-            while (behind < size && isLetter(behind)) {
-                behind++;
+            int sign = bytes[i];
+            if (sign >= 'a' && sign <= 'z') {
+                return WORD;
             }
-        }
-
-        private void passNumber() {
-            while (behind < size && isDigit(behind)) {
-                value = Math.min(HUGE, value * 10 + bytes[behind] - '0');
-                behind++;
+            if (sign >= '0' && sign <= '9') {
+                return NUMBER;
             }
-        }
-
-        private boolean isLetter(int i) {
-            return bytes[i] >= 'a' && bytes[i] <= 'z';
-        }
-
-        private boolean isDigit(int i) {
-            return bytes[i] >= '0' && bytes[i] <= '9';
+            if (sign == 32 || sign == 10) {
+                return BLANK;
+            }
+            return sign == ';' ? SIGN : STRANGE;
         }
 
         boolean isWord(String word) {
@@ -715,8 +737,7 @@ public final class WatchStack {
             if (!placed || !readEnd()) {
                 return false;
             }
-            board.over[board.watchers] = got[0];
-            board.watchers++;
+            board.addWatcher(got[0]);
             return true;
         }
 
@@ -783,8 +804,16 @@ public final class WatchStack {
                 return fail(TOO_MANY);
             }
             tape.advance();
-            boolean read = kind == SLEEP ? readSleep() : readChange(kind);
-            if (!read || !readEnd()) {
+            if (kind == SLEEP) {
+                if (!readNumber(0, board.watchers - 1, 0) || !readPair("tick", 0, MAX_SLEEP, 1)) {
+                    return false;
+                }
+            } else if (!readChangedTask() || !readPair("job", 0, MAX_JOB, 1)
+                    || (kind != WRONG && !readPair("node", 0, board.traits[got[0]][Board.NODES] - 1, 2))
+                    || !readPair("times", 1, MAX_TIMES, 3)) {
+                return false;
+            }
+            if (!readEnd()) {
                 return false;
             }
             board.setInjection(board.told, kind, got[0], got[1], got[2], got[3]);
@@ -792,18 +821,11 @@ public final class WatchStack {
             return true;
         }
 
-        private boolean readSleep() {
-            return readNumber(0, board.watchers - 1, 0) && readPair("tick", 0, MAX_SLEEP, 1);
-        }
-
-        private boolean readChange(int kind) {
+        private boolean readChangedTask() {
             if (tape.kind == Tape.NUMBER && !board.hasNode(tape.value, 0)) {
                 return fail(BAD_NUMBER);
             }
-            return readNumber(0, board.tasks - 1, 0) && readPair("job", 0, MAX_JOB, 1)
-                    && (kind == WRONG
-                            || readPair("node", 0, board.traits[got[0]][Board.NODES] - 1, 2))
-                    && readPair("times", 1, MAX_TIMES, 3);
+            return readNumber(0, board.tasks - 1, 0);
         }
 
         private boolean readPair(String word, int low, int high, int slot) {
@@ -869,6 +891,8 @@ public final class WatchStack {
         int told;
         int acts;
         final int[] over = new int[MAX_WATCHERS];
+        // the watchers at it and below it, as bits
+        final int[] below = new int[MAX_WATCHERS];
         final int[][] traits = new int[MAX_TASKS][TRAITS];
         final int[][] units = new int[MAX_TASKS][MAX_NODES];
         final int[][] followers = new int[MAX_TASKS][MAX_NODES];
@@ -902,6 +926,7 @@ public final class WatchStack {
             told = other.told;
             acts = other.acts;
             System.arraycopy(other.over, 0, over, 0, MAX_WATCHERS);
+            System.arraycopy(other.below, 0, below, 0, MAX_WATCHERS);
             for (int task = 0; task < MAX_TASKS; task++) {
                 System.arraycopy(other.traits[task], 0, traits[task], 0, TRAITS);
                 System.arraycopy(other.units[task], 0, units[task], 0, MAX_NODES);
@@ -933,15 +958,22 @@ public final class WatchStack {
             return hasNode(task, node) && (followers[task][node] & (1 << later)) != 0;
         }
 
-        boolean isAtOrBelow(int watcher, int top) {
-            int up = watcher;
-            for (int i = 0; i < MAX_WATCHERS && hasWatcher(up); i++) {
-                if (up == top) {
-                    return true;
-                }
-                up = over[up];
+        void addWatcher(int above) {
+            if (watchers >= MAX_WATCHERS) {
+                return;
             }
-            return false;
+            over[watchers] = above;
+            below[watchers] = 1 << watchers;
+            for (int top = 0; top < watchers; top++) {
+                if (above != NONE && (below[top] & (1 << above)) != 0) {
+                    below[top] |= 1 << watchers;
+                }
+            }
+            watchers++;
+        }
+
+        boolean isAtOrBelow(int watcher, int top) {
+            return (below[top] & (1 << watcher)) != 0;
         }
 
         /** Whether an injection can be: what it has not is to be 0. */
@@ -1402,6 +1434,7 @@ public final class WatchStack {
         static final int LEVEL = 3;
         static final int PARTS = 4;
 
+        static final int GOOD = 0;
         static final int EARLY = 1;
         static final int LATE = 2;
         static final int FLOW = 3;
@@ -1550,10 +1583,28 @@ public final class WatchStack {
             }
         }
 
+        /** Runs the whole board from the first tick on: how many records there are. */
+        int countRecords() {
+            reset();
+            for (int i = 0; i < board.ticks && haltTick == NONE; i++) {
+                step();
+            }
+            return records.size;
+        }
+
         private void step() {
             latestOwner = NONE;
-            if (haltTick == NONE) {
-                runTick();
+            tickOver = haltTick != NONE;
+            if (!tickOver) {
+                beginTick();
+                latestOwner = nextOwner();
+                work(latestOwner);
+                askLate();
+            }
+            if (divides(board.cycle, now + 1)) {
+                letWatchersLook();
+                askDog();
+                endCycle();
             }
             if (latestOwner == NONE) {
                 idleTicks++;
@@ -1561,26 +1612,13 @@ public final class WatchStack {
             now++;
         }
 
-        private void runTick() {
-            tickOver = false;
-            if (divides(board.cycle, now)) {
-                for (int task = 0; task < board.tasks; task++) {
-                    states[task].forgetCycle();
-                }
-            }
-            beginJobs();
-            giveTick();
-            askLate();
-            if (divides(board.cycle, now + 1)) {
-                letWatchersLook();
-                askDog();
-                endCycle();
-            }
-        }
-
-        private void beginJobs() {
+        private void beginTick() {
+            boolean cycleBegins = divides(board.cycle, now);
             for (int task = 0; task < board.tasks; task++) {
                 TaskState state = states[task];
+                if (cycleBegins) {
+                    state.forgetCycle();
+                }
                 if (state.place == NONE && now >= state.from
                         && divides(board.traits[task][Board.PERIOD], now)) {
                     if (state.begun <= MAX_JOB) {
@@ -1599,47 +1637,48 @@ public final class WatchStack {
             state.unitsLeft = board.units[task][node] * (state.change == SLOW ? 2 : 1);
         }
 
-        private void giveTick() {
+        private int nextOwner() {
             for (int task = 0; task < board.tasks; task++) {
                 if (states[task].wantsTick()) {
-                    latestOwner = task;
-                    work(task);
-                    return;
+                    return task;
                 }
             }
+            return NONE;
         }
 
         private void work(int task) {
-            TaskState state = states[task];
-            if (state.change == HANG) {
+            if (!board.hasTask(task) || states[task].change == HANG) {
                 return;
             }
+            TaskState state = states[task];
             state.unitsLeft--;
             if (state.unitsLeft > 0) {
                 return;
             }
             int next = Flow.follower(board, task, state.place, state.job());
-            if (next == NONE || state.change == SKIP) {
-                kick(task, next != NONE);
-            } else {
+            if (next != NONE && state.change != SKIP) {
                 enterNode(task, next);
+                return;
             }
+            int kind = kindOfKick(task, next != NONE);
+            if (kind != Records.GOOD) {
+                failTask(task, kind);
+                return;
+            }
+            noteKick(task, state.gapAt(now));
+            state.kickWell(now, board.traits[task][Board.OPEN], board.traits[task][Board.CLOSE]);
         }
 
-        private void kick(int task, boolean cutShort) {
+        private int kindOfKick(int task, boolean cutShort) {
             TaskState state = states[task];
-            int[] traits = board.traits[task];
-            int gap = state.gapAt(now);
             if (cutShort) {
-                failTask(task, Records.FLOW);
-            } else if (board.changeAt(task, state.job(), NONE) == WRONG) {
-                failTask(task, Records.ANSWER);
-            } else if (gap < traits[Board.OPEN] && state.latestKick != NONE) {
-                failTask(task, Records.EARLY);
-            } else {
-                noteKick(task, gap);
-                state.kickWell(now, traits[Board.OPEN], traits[Board.CLOSE]);
+                return Records.FLOW;
             }
+            if (board.changeAt(task, state.job(), NONE) == WRONG) {
+                return Records.ANSWER;
+            }
+            boolean early = state.gapAt(now) < board.traits[task][Board.OPEN];
+            return early && state.latestKick != NONE ? Records.EARLY : Records.GOOD;
         }
 
         private void noteKick(int task, int gap) {
@@ -1653,7 +1692,7 @@ public final class WatchStack {
         private void askLate() {
             for (int task = 0; task < board.tasks && !tickOver; task++) {
                 TaskState state = states[task];
-                // a kick at this tick leaves a gap of 0, or a start behind it
+                // a good kick at this tick leaves a gap of 0, a bad one a start behind it
                 if (now >= state.from && state.gapAt(now) >= board.traits[task][Board.CLOSE]) {
                     failTask(task, Records.LATE);
                 }
@@ -1663,38 +1702,33 @@ public final class WatchStack {
         private void letWatchersLook() {
             for (int watcher = board.watchers - 1; watcher >= 0 && !tickOver; watcher--) {
                 looked[watcher] = !isAsleep(watcher);
-                if (looked[watcher]) {
-                    askTasks(watcher);
-                    askWatchers(watcher);
+                if (!looked[watcher]) {
+                    continue;
+                }
+                for (int task = 0; task < board.tasks && !tickOver; task++) {
+                    if (missesUnder(watcher, task)) {
+                        failTask(task, Records.ALIVE);
+                    }
+                }
+                for (int other = watcher + 1; other < board.watchers && !tickOver; other++) {
+                    if (board.over[other] == watcher && !looked[other]) {
+                        failWatcher(other);
+                    }
                 }
             }
         }
 
-        private void askTasks(int watcher) {
-            int first = now - board.cycle + 1;
-            for (int task = 0; task < board.tasks && !tickOver; task++) {
-                int[] traits = board.traits[task];
-                TaskState state = states[task];
-                boolean alive = state.goodInCycle >= traits[Board.LEAST]
-                        && state.goodInCycle <= traits[Board.MOST];
-                if (traits[Board.WATCHER] == watcher && state.from <= first && !alive) {
-                    failTask(task, Records.ALIVE);
-                }
-            }
-        }
-
-        private void askWatchers(int watcher) {
-            for (int other = watcher + 1; other < board.watchers && !tickOver; other++) {
-                if (board.over[other] == watcher && !looked[other]) {
-                    failWatcher(other);
-                }
-            }
+        private boolean missesUnder(int watcher, int task) {
+            int[] traits = board.traits[task];
+            TaskState state = states[task];
+            return traits[Board.WATCHER] == watcher && state.from <= now - board.cycle + 1
+                    && (state.goodInCycle < traits[Board.LEAST] || state.goodInCycle > traits[Board.MOST]);
         }
 
         private void askDog() {
             if (!tickOver && board.watchers > 0 && !looked[0]) {
                 records.add(now, Records.DOG, 0, TOP_LEVEL);
-                resetBoard();
+                climb(TOP_LEVEL, NONE, 0);
             }
         }
 
@@ -1713,65 +1747,37 @@ public final class WatchStack {
             }
             level = Math.min(level, TOP_LEVEL);
             records.add(now, kind, task, level);
-            climb(level, task);
-        }
-
-        private void climb(int level, int task) {
-            int watcher = board.traits[task][Board.WATCHER];
-            switch (level) {
-                case 0:
-                    restart(task);
-                    break;
-                case 1:
-                    restartUnder(watcher);
-                    break;
-                case 2:
-                    resetWatcher(watcher);
-                    break;
-                default:
-                    resetBoard();
-                    break;
-            }
+            climb(level, task, board.traits[task][Board.WATCHER]);
         }
 
         private void failWatcher(int watcher) {
-            boolean again = foundAsleep[watcher];
+            int level = foundAsleep[watcher] ? TOP_LEVEL : 2;
             foundAsleep[watcher] = true;
-            records.add(now, Records.ASLEEP, watcher, again ? TOP_LEVEL : 2);
-            if (again) {
-                resetBoard();
-            } else {
-                resetWatcher(watcher);
-            }
+            records.add(now, Records.ASLEEP, watcher, level);
+            climb(level, NONE, watcher);
         }
 
-        private void restart(int task) {
-            int period = board.traits[task][Board.PERIOD];
-            states[task].restartAt((divideCut(now, period) + 1) * period);
-        }
-
-        private void restartUnder(int watcher) {
-            for (int task = 0; task < board.tasks; task++) {
-                if (board.traits[task][Board.WATCHER] == watcher) {
-                    restart(task);
+        /** Restarts a task (level 0), those under its watcher, those below that too, or the board. */
+        private void climb(int level, int task, int watcher) {
+            for (int other = 0; other < board.tasks; other++) {
+                int its = board.traits[other][Board.WATCHER];
+                if (level == TOP_LEVEL || (level == 2 && board.isAtOrBelow(its, watcher))
+                        || (level == 1 && its == watcher) || other == task) {
+                    int period = Math.max(1, board.traits[other][Board.PERIOD]);
+                    states[other].restartAt((now / period + 1) * period);
                 }
             }
-        }
-
-        private void resetWatcher(int top) {
-            for (int watcher = 0; watcher < board.watchers; watcher++) {
-                if (board.isAtOrBelow(watcher, top)) {
-                    restartUnder(watcher);
-                    wokenAt[watcher] = now;
+            for (int other = 0; other < board.watchers; other++) {
+                if (level == TOP_LEVEL || (level == 2 && board.isAtOrBelow(other, watcher))) {
+                    wokenAt[other] = now;
                 }
             }
+            if (level == TOP_LEVEL) {
+                endTickByReset();
+            }
         }
 
-        private void resetBoard() {
-            for (int watcher = 0; watcher < board.watchers; watcher++) {
-                restartUnder(watcher);
-                wokenAt[watcher] = now;
-            }
+        private void endTickByReset() {
             tickOver = true;
             resets++;
             if (resets == RESETS_TO_HALT) {
@@ -1849,58 +1855,17 @@ public final class WatchStack {
             }
         }
 
-        private int countRecords() {
-            trial.reset();
-            trial.show(trial.board.ticks);
-            return trial.records.size;
-        }
-
         int recordsLacking(Board board, int injection) {
             trial.board.copyFrom(board);
             trial.board.dropInjection(injection);
-            return countRecords();
-        }
-
-        int worstInjection(Board board, int total) {
-            int worst = NONE;
-            int fewest = total;
-            for (int i = 0; i < board.told + board.acts; i++) {
-                int left = recordsLacking(board, i);
-                if (left < fewest) {
-                    fewest = left;
-                    worst = i;
-                }
-            }
-            return worst;
+            return trial.countRecords();
         }
 
         int recordsWindowed(Board board, int task, int open, int close) {
             trial.board.copyFrom(board);
             trial.board.traits[task][Board.OPEN] = open;
             trial.board.traits[task][Board.CLOSE] = close;
-            return countRecords();
-        }
-
-        int leastClose(Board board, int task, int total) {
-            int open = board.traits[task][Board.OPEN];
-            int close = board.traits[task][Board.CLOSE];
-            for (int b = open + 1; b < close; b++) {
-                if (recordsWindowed(board, task, open, b) <= total) {
-                    return b;
-                }
-            }
-            return close;
-        }
-
-        int greatestOpen(Board board, int task, int total) {
-            int open = board.traits[task][Board.OPEN];
-            int close = board.traits[task][Board.CLOSE];
-            for (int a = Math.min(close - 1, MAX_OPEN); a > open; a--) {
-                if (recordsWindowed(board, task, a, close) <= total) {
-                    return a;
-                }
-            }
-            return open;
+            return trial.countRecords();
         }
 
         /** One injection more, in each job and node in turn: what is caught of it, and how soon. */
@@ -1915,7 +1880,7 @@ public final class WatchStack {
             int nodes = kind == WRONG ? 1 : whole.board.traits[task][Board.NODES];
             greatestDelay[task][kind] = NONE;
             uncaught[task][kind] = 0;
-            for (int job = 0; whole.beginOf(task, job) != NONE; job++) {
+            for (int job = 0; job <= MAX_JOB && whole.beginOf(task, job) != NONE; job++) {
                 int tick = whole.beginOf(task, job);
                 view.show(tick);
                 for (int node = 0; node < nodes; node++) {
