@@ -61,6 +61,8 @@ public final class LawTest {
         due("answer 0 50 15", x.answer(0, 50, 15), 0);
         due("alike 0 15", x.alike(0, 15), 1);
         due("alike 0 14", x.alike(0, 14), 0);
+        due("answer 0 0 0", x.answer(0, 0, 0), 7);
+        due("alike 0 63", x.alike(0, 63), 1);
         due("answer 0 0 63", x.answer(0, 0, 63), (5 * ((5 * 63 + 1) % 64) + 2) % 64);
         due("answer -1", x.answer(0, 0, -1), -2);
         due("answer 64", x.answer(0, 0, 64), -2);

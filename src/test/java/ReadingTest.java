@@ -131,6 +131,8 @@ public final class ReadingTest {
         flaw("boardticks 20 cycle 5 low 0;", 1, 0);
         flaw("board ticks 2 0 cycle 5 low 0;", 2, 12);
         flaw("board ticks 20 0 cycle 5 low 0;", 1, 15);
+        flaw("boardz ticks 20 cycle 5 low 0;", 1, 0);
+        flaw("board aticksz 20 cycle 5 low 0;", 1, 6);
         flaw("Board ticks 20 cycle 5 low 0;", 1, 0);
         flaw("board\tticks 20 cycle 5 low 0;", 1, 5);
         flaw("board\rticks 20 cycle 5 low 0;", 1, 5);

@@ -150,6 +150,8 @@ public final class RunTest {
         WatchStack first = Check.on(board(40, 40, 0) + task(0, 10, 0, 3, 0, 9) + "node 4;");
         due("late at 2", first.record(0, 0), 2);
         due("kind", first.record(0, 1), 2);
+        // with B 1 it is late at its start, if its kick does not come at it
+        records(Check.on(board(20, 20, 0) + task(0, 20, 0, 1, 0, 9) + "node 2;"), new int[][] {{0, 2, 0, 0}});
         // a hang at a restart's tick: the next job has the next number
         WatchStack one = Check.on(board(20, 20, 0) + task(0, 4, 0, 1, 0, 9) + "node 1;");
         records(one, new int[][] {{1, 2, 0, 0}, {5, 2, 0, 1}, {9, 2, 0, 2}, {13, 2, 0, 3}, {17, 2, 0, 3}});
@@ -200,6 +202,9 @@ public final class RunTest {
         // more than M
         WatchStack many = Check.on(board(20, 20, 0) + task(0, 4, 0, 30, 0, 4) + "node 1;");
         records(many, new int[][] {{19, 5, 0, 0}});
+        // just M, just L
+        records(Check.on(board(20, 20, 0) + task(0, 4, 0, 30, 5, 5) + "node 1;"), new int[][] {});
+        records(Check.on(board(20, 20, 0) + task(0, 4, 0, 30, 6, 6) + "node 1;"), new int[][] {{19, 5, 0, 0}});
         // only under its own watcher, and no end of a cycle ahead of H: none
         records(Check.on(board(20, 21, 0) + task(0, 4, 0, 30, 20, 40) + "node 1;"), new int[][] {});
     }
@@ -316,6 +321,19 @@ public final class RunTest {
         due("start 1 behind the board's", x.start(1, 40), 40);
         due("ledger 1", x.ledger(1), 3);
         due("ledger 0", x.ledger(0), 0);
+        due("levels 3", x.levels(3, 60), 2);
+        due("levels 3 at its own tick", x.levels(3, 49), 1);
+        WatchStack all = Check.on(text + "sleep 2 tick 5;sleep 0 tick 25;skip 0 job 0 node 0 times 1;wrong 1 job 3 times 1;");
+        records(all, new int[][] {{9, 6, 2, 2}, {29, 7, 0, 3}, {31, 4, 1, 0}});
+        due("ledger 1", all.ledger(1), 2);
+        due("ledger 0", all.ledger(0), 1);
+        int[] kinds = {0, 0, 0, 1, 0, 1, 1};
+        for (int kind = 1; kind <= 7; kind++) due("kinds " + kind, all.kinds(kind), kinds[kind - 1]);
+        // the reset of a watcher wakes none that is not below it
+        WatchStack apart = Check.on(text.replace("under 1;task", "under 0;task") + "sleep 1 tick 11;sleep 2 tick 11;"
+                + "wrong 0 job 0 times 3;wrong 1 job 0 times 1;");
+        records(apart, new int[][] {{0, 4, 0, 0}, {1, 4, 1, 0}, {10, 4, 0, 1}, {19, 6, 1, 2}, {19, 6, 2, 2}, {20, 4, 0, 2}});
+        due("1 is awake", apart.sleeps(1, 20), 0);
         // watcher 1 sleeps: 2 is not asked of, 1 is, and its reset wakes 2 as well
         WatchStack both = Check.on(text + "sleep 2 tick 5;sleep 1 tick 5;");
         records(both, new int[][] {{9, 6, 1, 2}});

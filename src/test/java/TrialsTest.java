@@ -8,6 +8,8 @@ public final class TrialsTest {
         withoutAndBlame();
         windows();
         probes();
+        fullBoard();
+        sleepLeft();
         acts();
         actsRefused();
         images();
@@ -158,6 +160,30 @@ public final class TrialsTest {
         due("acts", x.count(6), 10);
         due("wrong", x.longest(0, 4), 4);
         due("silent", x.silent(0, 4), 0);
+    }
+
+    // as many injections as can be, and one more for the trial
+    private static void fullBoard() {
+        String text = board(60, 50, 0) + task(10, 0, 30) + "node 2;";
+        for (int i = 0; i < 8; i++) text += "wrong 0 job 50 times 1;";
+        WatchStack x = Check.on(text);
+        for (int i = 0; i < 10; i++) due("inject", x.inject(0, 0, 49, 0, 1), 0);
+        due("injection 17", x.injection(17, 2), 49);
+        due("injection 18", x.injection(18, 2), -2);
+        due("wrong", x.longest(0, 4), 1);
+        due("wrong silent", x.silent(0, 4), 0);
+        due("injection 17", x.injection(17, 2), 49);
+        for (int i = 0; i < 18; i++) due("without " + i, x.without(i), 0);
+    }
+
+    // a second sleep of a watcher leaves the first one's waking
+    private static void sleepLeft() {
+        WatchStack x = Check.on("board ticks 40 cycle 10 low 0;watcher root;watcher under 0;sleep 1 tick 5;sleep 1 tick 15;");
+        due("records", x.faults(40), 2);
+        due("without 0", x.without(0), 1);
+        due("without 1", x.without(1), 1);
+        due("blame", x.blame(), 0);
+        due("caught 1", x.caught(1), 4);
     }
 
     // promises 51 to 53
