@@ -1785,14 +1785,12 @@ public final class WatchStack {
             }
         }
 
-        /** A sleep counts from its tick on, if no waking came at it or behind it. */
+        /** A sleep counts from its tick on, on a board that halted too, if no waking came at it or behind it. */
         boolean isAsleep(int watcher) {
-            // nothing sets in any more on a board that halts
-            int tick = haltTick == NONE ? now : haltTick;
             for (int i = 0; i < board.told + board.acts; i++) {
                 int[] row = board.injections[i];
                 if (row[Board.KIND] == SLEEP && row[Board.WHO] == watcher
-                        && row[Board.JOB] <= tick && row[Board.JOB] > wokenAt[watcher]) {
+                        && row[Board.JOB] <= now && row[Board.JOB] > wokenAt[watcher]) {
                     return true;
                 }
             }

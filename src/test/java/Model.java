@@ -404,9 +404,7 @@ final class Model {
                 begins.add(new ArrayList<>());
             }
             for (int tick = 0; tick <= h; tick++) {
-                if (halt < 0) {
-                    for (int[] i : injections) if (i[0] == 5 && i[2] == tick) sleeping[i[1]] = true;
-                }
+                for (int[] i : injections) if (i[0] == 5 && i[2] == tick) sleeping[i[1]] = true;
                 keep(tick);
                 if (tick < h) {
                     had[tick] = -1;

@@ -45,7 +45,7 @@ public final class ModelTest {
         for (int i = 0; i < 5; i++) {
             int kind = boards.below(6);
             int who = kind == 5 ? boards.below(3) : boards.below(5);
-            int j = boards.below(8);
+            int j = boards.below(kind == 5 ? 200 : 8);
             int k = kind > 3 ? 0 : boards.below(4);
             int m = kind == 5 ? 0 : 1 + boards.below(3);
             boolean fits = kind == 5 ? who < model.over.size()

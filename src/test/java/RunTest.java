@@ -19,6 +19,7 @@ public final class RunTest {
         sleepsStillToCome();
         dog();
         haltStays();
+        sleepsBehindHalt();
         edges();
         CHECK.end("RunTest");
     }
@@ -393,11 +394,36 @@ public final class RunTest {
             due("tenths " + tick, x.tenths(0, tick), 0);
             due("jobs 1 " + tick, x.jobs(1, tick), 1);
             due("at 1 " + tick, x.at(1, tick), -1);
-            // nothing happens any more: the sleep does not set in
-            due("sleeps " + tick, x.sleeps(0, tick), 0);
+            // judged by its X against the tick alone: the halt does not keep it off
+            due("sleeps " + tick, x.sleeps(0, tick), tick < 30 ? 0 : 1);
         }
         due("idle", x.idle(100), 95);
         due("kicks 1", x.kicks(1, 100), 0);
+        due("sleeps 100", x.sleeps(0, 100), 1);
+        due("no record of the sleep", x.faults(100), 5);
+        due("caught", x.caught(1), -1);
+    }
+
+    /** The halt wakes all, so of the sleeps told only those with an X behind it count. */
+    private static void sleepsBehindHalt() {
+        String text = "board ticks 60 cycle 10 low 9;watcher root;watcher under 0;watcher under 1;"
+                + task(0, 4, 0, 10, 0, 40) + "node 1;wrong 0 job 0 times 9;sleep 0 tick 15;sleep 0 tick 16;sleep 1 tick 17;";
+        WatchStack x = Check.on(text);
+        due("halts", x.halts(), 16);
+        for (int tick = 0; tick <= 60; tick++) {
+            due("sleeps 0 " + tick, x.sleeps(0, tick), tick == 15 || tick == 16 ? 1 : 0);
+            due("sleeps 1 " + tick, x.sleeps(1, tick), tick >= 17 ? 1 : 0);
+            due("sleeps 2 " + tick, x.sleeps(2, tick), 0);
+        }
+        due("an act", x.inject(5, 2, 60, 0, 0), x.faults(60));
+        due("another", x.inject(5, 0, 40, 0, 0), x.faults(60));
+        due("a tick ahead of X", x.sleeps(0, 39), 0);
+        due("at X", x.sleeps(0, 40), 1);
+        due("ahead of H", x.sleeps(2, 59), 0);
+        due("at H", x.sleeps(2, 60), 1);
+        due("asked back", x.sleeps(1, 16), 0);
+        due("taken back", x.undo(), 1);
+        due("as it was", x.sleeps(0, 40), 0);
     }
 
     private static void edges() {
