@@ -2,6 +2,7 @@
 public final class SentenceTest {
     public static void main(String[] args) throws java.io.IOException {
         Sentences s = new Sentences();
+        new FaceSentences(s).run();
         new ReadingSentences(s).run();
         new LawSentences(s).run();
         new RunSentences(s).run();

@@ -22,6 +22,10 @@ final class Sentences {
     private int named;
 
     Sentences() throws IOException {
+        if (!Files.exists(DOCUMENT)) {
+            System.out.println(DOCUMENT + " is not there: the answers are tested, the words of the sentences are not");
+            return;
+        }
         for (String part : Files.readString(DOCUMENT).split("\n## ")) {
             int end = part.indexOf('\n');
             String title = part.substring(0, end < 0 ? part.length() : end).replaceAll(":.*", "");
@@ -36,6 +40,7 @@ final class Sentences {
         endSentence();
         sentence = title + ", \"" + words + "\"";
         named++;
+        if (sections.isEmpty()) return;
         Section section = sections.get(title);
         int from = section == null ? -1 : section.words.indexOf(words);
         if (from < 0) {

@@ -318,6 +318,13 @@ final class TickSentences {
         WatchStack x = caught();
         s.due("ledger 0", x.ledger(0), 3);
         s.due("ledger 1", x.ledger(1), 4);
+        // one SLEEP and two of the DOG; two SLEEPS and none of it
+        WatchStack dog = Check.on(Texts.board(40, 10, 0) + "watcher under 0;sleep 1 tick 9;sleep 0 tick 19;sleep 0 tick 29;");
+        s.due("ledger 0", dog.ledger(0), 0);
+        s.due("ledger 1", dog.ledger(1), 3);
+        WatchStack sleep = Check.on(Texts.board(40, 10, 0) + "watcher under 0;sleep 1 tick 9;sleep 1 tick 19;");
+        s.due("ledger 0", sleep.ledger(0), 0);
+        s.due("ledger 1", sleep.ledger(1), 2);
         for (int which : new int[] {-1, 2, MIN_VALUE, MAX_VALUE}) s.due("ledger " + which, x.ledger(which), -2);
         s.due("without a BOARD", new WatchStack().ledger(0), -2);
         s.due("without a BOARD", new WatchStack().ledger(1), -2);

@@ -215,6 +215,10 @@ final class TrialSentences {
         s.due("below B", on(60, task(10, 0, 10) + "node 2;").loose(0), 9);
         s.due("below B, its own A", on(60, task(10, 5, 6) + "node 9;").loose(0), 5);
         s.due("its own A", on(60, task(10, 10, 20) + "node 2;").loose(0), 10);
+        // each KICK is wrong, so none is EARLY: as many as there are
+        WatchStack wrong = on(60, task(10, 0, 20) + "node 2;wrong 0 job 0 times 9;");
+        s.due("RECORDS", wrong.faults(60), 6);
+        s.due("no more than there are", wrong.loose(0), 19);
         for (int t : NO_TASK) s.due("loose " + t, x.loose(t), -2);
         s.due("without a BOARD", new WatchStack().loose(0), -2);
         s.due("as it was", x.task(0, 2), 5);
